@@ -1212,7 +1212,7 @@ public final class LastPages {
             }
             int state = from[book];
             for (int i = 0; i < pages[book]; i++) {
-                state = story.leadsTo(state, turnOnPage(book, i));
+                state = story.leadsTo(state, page[book * PAGES_MOST + i]);
                 if (state == NONE) {
                     return i;
                 }
@@ -1226,7 +1226,7 @@ public final class LastPages {
             }
             int state = from[book];
             for (int i = 0; i < pages[book] && state != NONE; i++) {
-                state = story.leadsTo(state, turnOnPage(book, i));
+                state = story.leadsTo(state, page[book * PAGES_MOST + i]);
             }
             return state;
         }
@@ -1328,7 +1328,7 @@ public final class LastPages {
         }
     }
 
-    /** Weeks as rows, one for each step (a when by the word of its test) and one for each end; what is open and its end are partners. */
+    /** Weeks as rows: one for each step (a when has the word of its test) and one for each end, which has a partner. */
     private static final class Weeks {
         final int[] word = new int[ROWS_MOST];
         final int[] sign = new int[ROWS_MOST];
@@ -1360,15 +1360,25 @@ public final class LastPages {
             return row >= 0 && row < rows;
         }
 
-        void addRow(int what) {
+        void addRow(int newWord, int newThing, int newSign, int newNumber) {
             if (rows < ROWS_MOST) {
-                word[rows] = what;
-                sign[rows] = 0;
-                thing[rows] = NONE;
-                number[rows] = 0;
+                word[rows] = newWord;
+                thing[rows] = newThing;
+                sign[rows] = newSign;
+                number[rows] = newNumber;
                 partner[rows] = NONE;
                 rows++;
-                steps += what == END ? 0 : 1;
+                steps += newWord == END ? 0 : 1;
+            }
+        }
+
+        /** The end of what was begun in an earlier row. */
+        void closeRow(int beginning) {
+            int end = rows;
+            addRow(END, NONE, 0, 0);
+            if (hasRow(beginning) && hasRow(end)) {
+                partner[beginning] = end;
+                partner[end] = beginning;
             }
         }
     }
@@ -1796,7 +1806,9 @@ public final class LastPages {
             depth = 0;
             tokens.begin(n);
             for (int i = 0; i <= WEEKS_MOST && tokens.kind != TOKEN_NONE_LEFT; i++) {
-                boolean isFine = tokens.word == END ? readEnd(tokens, weeks) : readStep(tokens, shelf, weeks);
+                boolean isFine = tokens.word == END
+                    ? readEnd(tokens, weeks)
+                    : mayStep(tokens, weeks) && readStep(tokens, shelf, weeks) && tokens.passSemicolon();
                 if (!isFine) {
                     return false;
                 }
@@ -1809,96 +1821,108 @@ public final class LastPages {
                 return tokens.blame(FAULT_CANT_STAND);
             }
             depth--;
-            int beginning = open[depth];
-            int end = weeks.rows;
-            weeks.addRow(END);
-            if (weeks.hasRow(beginning) && weeks.hasRow(end)) {
-                weeks.partner[beginning] = end;
-                weeks.partner[end] = beginning;
-            }
+            weeks.closeRow(open[depth]);
             tokens.advance();
             return tokens.passSemicolon();
         }
 
-        private boolean readStep(Tokens tokens, Shelf shelf, Weeks weeks) {
-            int step = tokens.word;
-            boolean opens = step == WHEN || step == LOOP;
-            if (!opens && step != BIND && step != LOOSE && step != CALL && step != GUESS && step != STOP) {
-                return tokens.blame(FAULT_CANT_STAND);
+        private boolean mayStep(Tokens tokens, Weeks weeks) {
+            switch (tokens.word) {
+                case BIND:
+                case LOOSE:
+                case CALL:
+                case GUESS:
+                case STOP:
+                    return weeks.steps < STEPS_MOST || tokens.blame(FAULT_ONE_MORE);
+                case WHEN:
+                case LOOP:
+                    if (weeks.steps >= STEPS_MOST) {
+                        return tokens.blame(FAULT_ONE_MORE);
+                    }
+                    return depth < DEPTH_MOST || tokens.blame(FAULT_TOO_DEEP);
+                default:
+                    return tokens.blame(FAULT_CANT_STAND);
             }
-            if (weeks.steps >= STEPS_MOST) {
-                return tokens.blame(FAULT_ONE_MORE);
-            }
-            if (opens && depth >= DEPTH_MOST) {
-                return tokens.blame(FAULT_TOO_DEEP);
-            }
-            int at = weeks.rows;
-            weeks.addRow(step);
-            if (opens) {
-                open[depth] = at;
-                depth++;
-            }
-            tokens.advance();
-            return weeks.hasRow(at) && readRest(tokens, shelf, weeks, at) && tokens.passSemicolon();
         }
 
-        private boolean readRest(Tokens tokens, Shelf shelf, Weeks weeks, int at) {
-            switch (weeks.word[at]) {
+        private boolean readStep(Tokens tokens, Shelf shelf, Weeks weeks) {
+            int step = tokens.word;
+            tokens.advance();
+            switch (step) {
                 case BIND:
-                    return readThing(tokens, shelf, weeks, at, BOOK) && readFinale(tokens, shelf, weeks, at);
+                    return readBind(tokens, shelf, weeks);
                 case LOOSE:
                 case GUESS:
-                    return readThing(tokens, shelf, weeks, at, BOOK);
+                    return readAbout(tokens, shelf, weeks, step, BOOK);
                 case CALL:
-                    return readThing(tokens, shelf, weeks, at, READER);
+                    return readAbout(tokens, shelf, weeks, step, READER);
                 case WHEN:
-                    return readTest(tokens, shelf, weeks, at);
+                    return readTest(tokens, shelf, weeks);
                 case LOOP:
-                    return readNumber(tokens, weeks, at, 1, LOOP_MOST);
+                    return readLoop(tokens, weeks);
                 default:
+                    weeks.addRow(step, NONE, 0, 0);
                     return true;
             }
         }
 
-        private boolean readThing(Tokens tokens, Shelf shelf, Weeks weeks, int at, int kind) {
-            boolean isFine = tokens.passOld(shelf, kind);
-            weeks.thing[at] = tokens.passed;
-            return isFine;
+        private boolean readBind(Tokens tokens, Shelf shelf, Weeks weeks) {
+            if (!tokens.passOld(shelf, BOOK)) {
+                return false;
+            }
+            int book = tokens.passed;
+            if (!tokens.passOld(shelf, FINALE)) {
+                return false;
+            }
+            weeks.addRow(BIND, book, 0, tokens.passed);
+            return true;
         }
 
-        private boolean readFinale(Tokens tokens, Shelf shelf, Weeks weeks, int at) {
-            boolean isFine = tokens.passOld(shelf, FINALE);
-            weeks.number[at] = tokens.passed;
-            return isFine;
+        private boolean readAbout(Tokens tokens, Shelf shelf, Weeks weeks, int step, int kind) {
+            if (!tokens.passOld(shelf, kind)) {
+                return false;
+            }
+            weeks.addRow(step, tokens.passed, 0, 0);
+            return true;
         }
 
-        private boolean readNumber(Tokens tokens, Weeks weeks, int at, int least, int most) {
-            boolean isFine = tokens.passNumber(least, most);
-            weeks.number[at] = tokens.passed;
-            return isFine;
+        private boolean readLoop(Tokens tokens, Weeks weeks) {
+            if (!tokens.passNumber(1, LOOP_MOST)) {
+                return false;
+            }
+            openRow(weeks);
+            weeks.addRow(LOOP, NONE, 0, tokens.passed);
+            return true;
         }
 
-        private boolean readTest(Tokens tokens, Shelf shelf, Weeks weeks, int at) {
+        private boolean readTest(Tokens tokens, Shelf shelf, Weeks weeks) {
             int test = tokens.word;
             if (test != DONE && test != LEFT && test != ODD) {
                 return tokens.blame(FAULT_CANT_STAND);
             }
-            weeks.word[at] = test;
             tokens.advance();
-            if (test != LEFT) {
-                if (!tokens.passOld(shelf, BOOK)) {
-                    return false;
-                }
-                weeks.thing[at] = tokens.passed;
-            }
-            if (test == DONE) {
-                return true;
-            }
-            if (!tokens.passCompares()) {
+            if (test != LEFT && !tokens.passOld(shelf, BOOK)) {
                 return false;
             }
-            weeks.sign[at] = tokens.passed;
-            return readNumber(tokens, weeks, at, 0, test == LEFT ? LEFT_MOST : ODDNESS_MOST);
+            int book = test == LEFT ? NONE : tokens.passed;
+            if (test != DONE && !tokens.passCompares()) {
+                return false;
+            }
+            int sign = tokens.passed;
+            if (test != DONE && !tokens.passNumber(0, test == LEFT ? LEFT_MOST : ODDNESS_MOST)) {
+                return false;
+            }
+            openRow(weeks);
+            weeks.addRow(test, book, sign, tokens.passed);
+            return true;
+        }
+
+        /** The next row waits for its end. */
+        private void openRow(Weeks weeks) {
+            if (depth >= 0 && depth < DEPTH_MOST) {
+                open[depth] = weeks.rows;
+                depth++;
+            }
         }
     }
 
