@@ -173,21 +173,23 @@ public final class LastPages {
     }
 
     public boolean write(int tray, int place, long v) {
-        int why = whyNoPlace(tray, place);
-        if (why != FINE) {
+        Tray row = trayAt(tray);
+        int why = whyNoPlace(row, place);
+        if (row == null || why != FINE) {
             return refuse(why);
         }
-        Tray row = trayAt(tray);
-        if (row != null) {
-            row.put(place, v);
-        }
+        row.put(place, v);
         return agree();
     }
 
     public long read(int tray, int place) {
-        status = whyNoPlace(tray, place);
         Tray row = trayAt(tray);
-        return status == FINE && row != null ? row.numberAt(place) : NONE;
+        int why = whyNoPlace(row, place);
+        if (row == null || why != FINE) {
+            return fail(why);
+        }
+        status = FINE;
+        return row.numberAt(place);
     }
 
     public boolean pour(int tray, int i, int to, int j, int many) {
@@ -345,8 +347,7 @@ public final class LastPages {
         if (!shelf.story.hasFinale(finale)) {
             return fail(NO_THING);
         }
-        // Places are told from 1 on; below that there is none, and NONE - 1 must not wrap to one.
-        return giveIfAny(place < 1 ? NONE : shelf.story.turnInFinale(finale, place - 1));
+        return giveIfAny(shelf.story.turnInFinale(finale, place - 1));
     }
 
     public int hint(int hint, int what) {
@@ -774,8 +775,7 @@ public final class LastPages {
         return mark < 0 || mark >= MARKS_MOST ? null : marks[mark];
     }
 
-    private int whyNoPlace(int tray, int place) {
-        Tray row = trayAt(tray);
+    private static int whyNoPlace(Tray row, int place) {
         if (row == null) {
             return NO_TRAY;
         }
@@ -956,7 +956,7 @@ public final class LastPages {
         }
 
         void setRule(int state, int turn, int to) {
-            if (hasState(state) && hasTurn(turn)) {
+            if (hasState(state) && hasTurn(turn) && (to == NONE || hasState(to))) {
                 leads[state * TURNS_MOST + turn] = to;
             }
         }
@@ -2305,7 +2305,8 @@ public final class LastPages {
                     return row + 1;
                 case LOOP:
                     rounds[row] = weeks.number[row];
-                    return row + 1;
+                    // Going round where nothing is between a loop and its end would only cost time.
+                    return weeks.partner[row] == row + 1 ? row + 2 : row + 1;
                 default:
                     return holds(shelf, weeks, row) ? row + 1 : weeks.partner[row] + 1;
             }
