@@ -183,6 +183,17 @@ public final class TextsTest {
         fault("2", HEAD, "watch w costs 1 tells b;", 2, 16);
         fault("2", HEAD, "follows b;", 2, 9);
         fault("2", HEAD, "follows b c b;", 2, 12);
+        // Where another part's word stands too early, that part must not be taken for the next one.
+        String next = "reader q;";
+        String[] broken = {"state x", "turn x", "turn x odd", "rule", "rule s", "rule s t", "rule s t to", "rule s t to s",
+            "book", "book d", "book d from", "book d from s", "book d from s misses", "book d from s misses 1",
+            "book d from s misses 1 t", "finale", "finale g", "finale g t", "hint", "hint b", "hint b at", "hint b at 1",
+            "hint b at 1 is", "hint b at 1 is t", "hint b at 1 is t by", "hint b at 1 is t by r", "reader", "reader x", "offer",
+            "offer o", "offer o costs", "offer o costs 1", "offer o costs 1 tells", "offer o costs 1 tells b", "watch",
+            "watch w", "watch w costs", "watch w costs 1", "watch w costs 1 guards", "follows", "follows b", "follows b c"};
+        for (String part : broken) {
+            fault("2", HEAD, part + " " + next, 2, part.length() + 1);
+        }
         right(HEAD + "offer o costs 1 tells;watch w costs 1 guards;");
         right(HEAD + "offer o costs 1 tells b b b;watch w costs 1 guards c c;");
     }

@@ -96,6 +96,12 @@ public final class WeeksTest {
         fault("2 no end", "loop 2;when left = 0;end; ", 2, 26);
         fault("2", "loop 2;end", 2, 10);
         fault("2", "loop 2;end stop;", 2, 11);
+        String[] broken = {"bind", "bind ba", "bind ba fa", "loose", "loose ba", "call", "call r", "guess", "guess ba", "when",
+            "when done", "when done ba", "when left", "when left <", "when left < 1", "when odd", "when odd ba",
+            "when odd ba =", "when odd ba = 1", "loop", "loop 3", "stop", "loop 3;end"};
+        for (String step : broken) {
+            fault("2", step + " stop;end;", 2, step.length() + 1);
+        }
         fault("3", "bind fa fa;", 3, 5);
         fault("3", "bind ba ba;", 3, 8);
         fault("3", "bind nobody fa;", 3, 5);
