@@ -4,15 +4,33 @@ import java.nio.charset.StandardCharsets;
 final class Checks {
     private static int asked = 0;
     private static int wrong = 0;
+    private static String within = "";
 
     private Checks() { }
 
+    /** What stands ahead of each wrong answer that is told from now on. */
+    static void within(String where) {
+        within = where;
+    }
+
+    static int asked() {
+        return asked;
+    }
+
     static void due(String what, long got, long want) {
+        judge(got == want, what + ": answered " + got + ", due is " + want);
+    }
+
+    static void same(String what, String got, String want) {
+        judge(got.equals(want), what + ": got\n" + got + "\ndue is\n" + want);
+    }
+
+    private static void judge(boolean right, String ifNot) {
         asked++;
-        if (got != want) {
+        if (!right) {
             wrong++;
             if (wrong <= 50) {
-                System.out.println(what + ": answered " + got + ", due is " + want);
+                System.out.println(within + ifNot);
             }
         }
     }
@@ -84,6 +102,38 @@ final class Checks {
         shelf(x, text);
         due("shelf status of " + text, x.status(), 0);
         return x;
+    }
+
+    static void rightShelf(String text) {
+        LastPages x = new LastPages();
+        shelf(x, text);
+        due("right: " + text, x.status(), 0);
+        due("no fault: " + text, x.fault(0), 0);
+        due("no place: " + text, x.fault(1), -1);
+    }
+
+    /** A text, behind a right head, that has a fault, at a place that is counted from the end of the head. */
+    static void faultyShelf(String what, String head, String text, int kind, int at) {
+        LastPages x = new LastPages();
+        refused(what + ": " + text, x, shelf(x, head + text), 10);
+        due(what + ": fault of " + text, x.fault(0), kind);
+        due(what + ": place of " + text, x.fault(1), head.length() + at);
+    }
+
+    static void rightWeeks(String shelf, String text) {
+        LastPages x = with(shelf);
+        weeks(x, text);
+        due("right: " + text, x.status(), 0);
+        due("no fault: " + text, x.fault(0), 0);
+        due("no place: " + text, x.fault(1), -1);
+    }
+
+    static void faultyWeeks(String what, String shelf, String text, int kind, int at) {
+        LastPages x = with(shelf);
+        refused(what + ": " + text, x, weeks(x, text), 10);
+        due(what + ": fault of " + text, x.fault(0), kind);
+        due(what + ": place of " + text, x.fault(1), at);
+        refused(what + ": no weeks by " + text, x, x.live(0), 8);
     }
 
     static void end() {

@@ -25,4 +25,28 @@ final class Shelves {
         }
         return text.append(rest).toString();
     }
+
+    /** A new object with so many finales of one turn, and a book for each set of finales, of which just these fit it. */
+    static LastPages fits(int finales, int... sets) {
+        StringBuilder text = new StringBuilder();
+        for (int i = 0; i < sets.length; i++) {
+            text.append("state s").append((char) ('a' + i)).append(';');
+        }
+        text.append("state z final;");
+        for (int i = 0; i < finales; i++) {
+            char c = (char) ('a' + i);
+            text.append("turn t").append(c).append(";finale f").append(c).append(" t").append(c).append(';');
+        }
+        for (int i = 0; i < sets.length; i++) {
+            char c = (char) ('a' + i);
+            text.append("book b").append(c).append(" from s").append(c).append(" misses 1;");
+        }
+        LastPages x = Checks.with(text.toString());
+        for (int i = 0; i < sets.length * finales; i++) {
+            if ((sets[i / finales] >> i % finales & 1) != 0) {
+                x.lead(i / finales, i % finales, sets.length);
+            }
+        }
+        return x;
+    }
 }

@@ -78,7 +78,7 @@ public final class TextsTest {
         Checks.due("12 ahead of any, place", x.fault(1), -1);
         x.shelf(1);
         Checks.due("12 5 does not count", x.fault(0), -1);
-        fault("12", "", "state", 2, 5);
+        Checks.faultyShelf("12", "", "state", 2, 5);
         Checks.shelf(x, "state 1;");
         Checks.due("12 kind", x.fault(0), 2);
         Checks.due("12 place", x.fault(1), 6);
@@ -96,93 +96,78 @@ public final class TextsTest {
         Checks.due("12 none, place", x.fault(1), -1);
     }
 
-    private static void right(String text) {
-        LastPages x = new LastPages();
-        Checks.shelf(x, text);
-        Checks.due("right: " + text, x.status(), 0);
-        Checks.due("no fault: " + text, x.fault(0), 0);
-        Checks.due("no place: " + text, x.fault(1), -1);
-    }
-
-    private static void fault(String what, String head, String text, int kind, int at) {
-        LastPages x = new LastPages();
-        Checks.refused(what + ": " + text, x, Checks.shelf(x, head + text), 10);
-        Checks.due(what + ": fault of " + text, x.fault(0), kind);
-        Checks.due(what + ": place of " + text, x.fault(1), head.length() + at);
-    }
-
     private static void tokens() {
-        right("state s;turn t odd 9;state u;");
-        right("state\ns\n;\n\n  turn t odd9;book b from s misses0003t;");
-        right("state s;turn t;book b from s misses 3t t;");
-        fault("1", "", "state s;\tturn t;", 1, 8);
-        fault("1", "", "state s;\rturn t;", 1, 8);
-        fault("1", "", "state S;", 1, 6);
-        fault("1", "", "state s:", 1, 7);
-        fault("1", "", "state s?;", 1, 7);
-        fault("1", "", "state s\u0000;", 1, 7);
-        fault("1", "", "state s\u00e1;", 1, 7);
-        fault("1", "", "state s@;", 1, 7);
-        fault("1", "", "state s[;", 1, 7);
-        fault("1", "", "state s`;", 1, 7);
-        fault("1", "", "state s{;", 1, 7);
-        fault("1", "", "state s/;", 1, 7);
-        fault("1 five digits", "", "turn t odd 00001;", 1, 11);
-        fault("1 five digits where no number can stand", "", "turn 12345;", 1, 5);
-        fault("1 very many digits", "", "turn t odd 000000000000000000000000000001;", 1, 11);
-        right("turn t odd 0001;");
-        fault("2 a word goes on", "", "statea;", 2, 0);
-        right("state tox;");
-        fault("2 a sign that is a token", "", "state s<;", 2, 7);
-        fault("2 a sign that is a token", "", "state s>;", 2, 7);
-        fault("2 a sign that is a token", "", "=", 2, 0);
+        Checks.rightShelf("state s;turn t odd 9;state u;");
+        Checks.rightShelf("state\ns\n;\n\n  turn t odd9;book b from s misses0003t;");
+        Checks.rightShelf("state s;turn t;book b from s misses 3t t;");
+        Checks.faultyShelf("1", "", "state s;\tturn t;", 1, 8);
+        Checks.faultyShelf("1", "", "state s;\rturn t;", 1, 8);
+        Checks.faultyShelf("1", "", "state S;", 1, 6);
+        Checks.faultyShelf("1", "", "state s:", 1, 7);
+        Checks.faultyShelf("1", "", "state s?;", 1, 7);
+        Checks.faultyShelf("1", "", "state s\u0000;", 1, 7);
+        Checks.faultyShelf("1", "", "state s\u00e1;", 1, 7);
+        Checks.faultyShelf("1", "", "state s@;", 1, 7);
+        Checks.faultyShelf("1", "", "state s[;", 1, 7);
+        Checks.faultyShelf("1", "", "state s`;", 1, 7);
+        Checks.faultyShelf("1", "", "state s{;", 1, 7);
+        Checks.faultyShelf("1", "", "state s/;", 1, 7);
+        Checks.faultyShelf("1 five digits", "", "turn t odd 00001;", 1, 11);
+        Checks.faultyShelf("1 five digits where no number can stand", "", "turn 12345;", 1, 5);
+        Checks.faultyShelf("1 very many digits", "", "turn t odd 000000000000000000000000000001;", 1, 11);
+        Checks.rightShelf("turn t odd 0001;");
+        Checks.faultyShelf("2 a word goes on", "", "statea;", 2, 0);
+        Checks.rightShelf("state tox;");
+        Checks.faultyShelf("2 a sign that is a token", "", "state s<;", 2, 7);
+        Checks.faultyShelf("2 a sign that is a token", "", "state s>;", 2, 7);
+        Checks.faultyShelf("2 a sign that is a token", "", "=", 2, 0);
     }
 
     private static void standing() {
-        fault("2", "", "s;", 2, 0);
-        fault("2", "", ";", 2, 0);
-        fault("2", "", "5;", 2, 0);
-        fault("2 bind is no part", HEAD, "bind b f;", 2, 0);
-        fault("2 the end", "", "state s", 2, 7);
-        fault("2 the end behind blanks", "", "state s  \n ", 2, 11);
-        fault("2", "", "state ;", 2, 6);
-        fault("2", "", "state s t;", 2, 8);
-        fault("2", "", "state s final final;", 2, 14);
-        fault("2", "", "turn t odd;", 2, 10);
-        fault("2", "", "turn t odd x;", 2, 11);
-        fault("2", "", "turn t odd 1 2;", 2, 13);
-        fault("2", "", "turn t final;", 2, 7);
-        fault("2", HEAD, "rule s t s;", 2, 9);
-        fault("2", HEAD, "rule s t to;", 2, 11);
-        fault("2", HEAD, "rule s t to s s;", 2, 14);
-        fault("2", HEAD, "rule s to s;", 2, 7);
-        fault("2", HEAD, "book d s misses 1;", 2, 7);
-        fault("2", HEAD, "book d from misses 1;", 2, 12);
-        fault("2", HEAD, "book d from s misses;", 2, 20);
-        fault("2", HEAD, "book d from s misses t;", 2, 21);
-        fault("2", HEAD, "book d from s misses 1 2;", 2, 23);
-        fault("2", HEAD, "book d from s misses 1 t", 2, 24);
-        fault("2", HEAD, "finale;", 2, 6);
-        fault("2 without turns", HEAD, "finale g;", 2, 8);
-        fault("2 without turns, the end", HEAD, "finale g ", 2, 9);
-        fault("2", HEAD, "finale g 1;", 2, 9);
-        fault("2", HEAD, "hint b 1 is t by r;", 2, 7);
-        fault("2", HEAD, "hint b at is t by r;", 2, 10);
-        fault("2", HEAD, "hint b at 1 t by r;", 2, 12);
-        fault("2", HEAD, "hint b at 1 is by r;", 2, 15);
-        fault("2", HEAD, "hint b at 1 is t r;", 2, 17);
-        fault("2", HEAD, "hint b at 1 is t by;", 2, 19);
-        fault("2", HEAD, "hint b at 1 is t by r r;", 2, 22);
-        fault("2", HEAD, "reader;", 2, 6);
-        fault("2", HEAD, "reader q r;", 2, 9);
-        fault("2", HEAD, "offer o tells b;", 2, 8);
-        fault("2", HEAD, "offer o costs tells b;", 2, 14);
-        fault("2", HEAD, "offer o costs 1 b;", 2, 16);
-        fault("2", HEAD, "offer o costs 1 guards b;", 2, 16);
-        fault("2", HEAD, "offer o costs 1 tells b 1;", 2, 24);
-        fault("2", HEAD, "watch w costs 1 tells b;", 2, 16);
-        fault("2", HEAD, "follows b;", 2, 9);
-        fault("2", HEAD, "follows b c b;", 2, 12);
+        Checks.faultyShelf("2", "", "s;", 2, 0);
+        Checks.faultyShelf("2", "", ";", 2, 0);
+        Checks.faultyShelf("2", "", "5;", 2, 0);
+        Checks.faultyShelf("2 bind is no part", HEAD, "bind b f;", 2, 0);
+        Checks.faultyShelf("2 the end", "", "state s", 2, 7);
+        Checks.faultyShelf("2 the end behind blanks", "", "state s  \n ", 2, 11);
+        Checks.faultyShelf("2", "", "state ;", 2, 6);
+        Checks.faultyShelf("2", "", "state s t;", 2, 8);
+        Checks.faultyShelf("2", "", "state s final final;", 2, 14);
+        Checks.faultyShelf("2", "", "turn t odd;", 2, 10);
+        Checks.faultyShelf("2", "", "turn t odd x;", 2, 11);
+        Checks.faultyShelf("2", "", "turn t odd 1 2;", 2, 13);
+        Checks.faultyShelf("2", "", "turn t final;", 2, 7);
+        Checks.faultyShelf("2", HEAD, "rule s t s;", 2, 9);
+        Checks.faultyShelf("2", HEAD, "rule s t to;", 2, 11);
+        Checks.faultyShelf("2", HEAD, "rule s t to s s;", 2, 14);
+        Checks.faultyShelf("2", HEAD, "rule s to s;", 2, 7);
+        Checks.faultyShelf("2", HEAD, "book d s misses 1;", 2, 7);
+        Checks.faultyShelf("2", HEAD, "book d from misses 1;", 2, 12);
+        Checks.faultyShelf("2", HEAD, "book d from s misses;", 2, 20);
+        Checks.faultyShelf("2", HEAD, "book d from s misses t;", 2, 21);
+        Checks.faultyShelf("2", HEAD, "book d from s misses 1 2;", 2, 23);
+        Checks.faultyShelf("2", HEAD, "book d from s misses 1 t", 2, 24);
+        Checks.faultyShelf("2", HEAD, "finale;", 2, 6);
+        Checks.faultyShelf("2 without turns", HEAD, "finale g;", 2, 8);
+        Checks.faultyShelf("2 without turns, the end", HEAD, "finale g ", 2, 9);
+        Checks.faultyShelf("2", HEAD, "finale g 1;", 2, 9);
+        Checks.faultyShelf("2", HEAD, "hint b 1 is t by r;", 2, 7);
+        Checks.faultyShelf("2", HEAD, "hint b at is t by r;", 2, 10);
+        Checks.faultyShelf("2", HEAD, "hint b at 1 t by r;", 2, 12);
+        Checks.faultyShelf("2", HEAD, "hint b at 1 is by r;", 2, 15);
+        Checks.faultyShelf("2", HEAD, "hint b at 1 is t r;", 2, 17);
+        Checks.faultyShelf("2", HEAD, "hint b at 1 is t by;", 2, 19);
+        Checks.faultyShelf("2", HEAD, "hint b at 1 is t by r r;", 2, 22);
+        Checks.faultyShelf("2", HEAD, "reader;", 2, 6);
+        Checks.faultyShelf("2", HEAD, "reader q r;", 2, 9);
+        Checks.faultyShelf("2", HEAD, "offer o tells b;", 2, 8);
+        Checks.faultyShelf("2", HEAD, "offer o costs tells b;", 2, 14);
+        Checks.faultyShelf("2", HEAD, "offer o costs 1 b;", 2, 16);
+        Checks.faultyShelf("2", HEAD, "offer o costs 1 guards b;", 2, 16);
+        Checks.faultyShelf("2", HEAD, "offer o costs 1 tells b 1;", 2, 24);
+        Checks.faultyShelf("2", HEAD, "watch w costs 1 tells b;", 2, 16);
+        Checks.faultyShelf("2", HEAD, "follows b;", 2, 9);
+        Checks.faultyShelf("2", HEAD, "follows b c b;", 2, 12);
         // Where another part's word stands too early, that part must not be taken for the next one.
         String next = "reader q;";
         String[] broken = {"state x", "turn x", "turn x odd", "rule", "rule s", "rule s t", "rule s t to", "rule s t to s",
@@ -192,74 +177,74 @@ public final class TextsTest {
             "offer o", "offer o costs", "offer o costs 1", "offer o costs 1 tells", "offer o costs 1 tells b", "watch",
             "watch w", "watch w costs", "watch w costs 1", "watch w costs 1 guards", "follows", "follows b", "follows b c"};
         for (String part : broken) {
-            fault("2", HEAD, part + " " + next, 2, part.length() + 1);
+            Checks.faultyShelf("2", HEAD, part + " " + next, 2, part.length() + 1);
         }
-        right(HEAD + "offer o costs 1 tells;watch w costs 1 guards;");
-        right(HEAD + "offer o costs 1 tells b b b;watch w costs 1 guards c c;");
+        Checks.rightShelf(HEAD + "offer o costs 1 tells;watch w costs 1 guards;");
+        Checks.rightShelf(HEAD + "offer o costs 1 tells b b b;watch w costs 1 guards c c;");
     }
 
     private static void names() {
-        right("state abcdefgh;");
-        fault("2 nine letters", "", "state abcdefghi;", 2, 6);
-        fault("2 nine letters, eight of which are taken", "state abcdefgh;", "turn t;book b from abcdefghi misses 1;", 2, 19);
+        Checks.rightShelf("state abcdefgh;");
+        Checks.faultyShelf("2 nine letters", "", "state abcdefghi;", 2, 6);
+        Checks.faultyShelf("2 nine letters, eight of which are taken", "state abcdefgh;", "turn t;book b from abcdefghi misses 1;", 2, 19);
         String reserved = "state final turn odd rule to book from misses finale hint at is by reader offer costs tells "
             + "watch guards follows bind loose call guess when done left loop end stop";
         for (String word : reserved.split(" ")) {
-            fault("2 no name", "", "reader " + word + ";", 2, 7);
-            right("reader x" + word.substring(1) + ";");
+            Checks.faultyShelf("2 no name", "", "reader " + word + ";", 2, 7);
+            Checks.rightShelf("reader x" + word.substring(1) + ";");
         }
         for (String taken : "s t b c f r".split(" ")) {
-            fault("3 taken", HEAD, "state " + taken + ";", 3, 6);
-            fault("3 taken", HEAD, "turn " + taken + ";", 3, 5);
-            fault("3 taken", HEAD, "book " + taken + " from s misses 1;", 3, 5);
-            fault("3 taken", HEAD, "finale " + taken + " t;", 3, 7);
-            fault("3 taken", HEAD, "reader " + taken + ";", 3, 7);
-            fault("3 taken", HEAD, "offer " + taken + " costs 1 tells b;", 3, 6);
-            fault("3 taken", HEAD, "watch " + taken + " costs 1 guards b;", 3, 6);
+            Checks.faultyShelf("3 taken", HEAD, "state " + taken + ";", 3, 6);
+            Checks.faultyShelf("3 taken", HEAD, "turn " + taken + ";", 3, 5);
+            Checks.faultyShelf("3 taken", HEAD, "book " + taken + " from s misses 1;", 3, 5);
+            Checks.faultyShelf("3 taken", HEAD, "finale " + taken + " t;", 3, 7);
+            Checks.faultyShelf("3 taken", HEAD, "reader " + taken + ";", 3, 7);
+            Checks.faultyShelf("3 taken", HEAD, "offer " + taken + " costs 1 tells b;", 3, 6);
+            Checks.faultyShelf("3 taken", HEAD, "watch " + taken + " costs 1 guards b;", 3, 6);
         }
-        fault("3 an offer's", HEAD + "offer o costs 1 tells b;", "watch o costs 1 guards b;", 3, 6);
-        fault("3 a watch's", HEAD + "watch w costs 1 guards b;", "state w;", 3, 6);
-        fault("3 no state", HEAD, "rule t t to s;", 3, 5);
-        fault("3 no turn", HEAD, "rule s s to s;", 3, 7);
-        fault("3 no state", HEAD, "rule s t to t;", 3, 12);
-        fault("3 no state", HEAD, "book d from b misses 1;", 3, 12);
-        fault("3 no turn", HEAD, "book d from s misses 1 t s;", 3, 25);
-        fault("3 no turn", HEAD, "finale g t f;", 3, 11);
-        fault("3 itself", HEAD, "finale g g;", 3, 9);
-        fault("3 no book", HEAD, "hint f at 1 is t by r;", 3, 5);
-        fault("3 no turn", HEAD, "hint b at 1 is s by r;", 3, 15);
-        fault("3 no reader", HEAD, "hint b at 1 is t by b;", 3, 20);
-        fault("3 no book", HEAD, "offer o costs 1 tells b f;", 3, 24);
-        fault("3 itself", HEAD, "offer o costs 1 tells o;", 3, 22);
-        fault("3 no book", HEAD, "watch w costs 1 guards s;", 3, 23);
-        fault("3 no book", HEAD, "follows s b;", 3, 8);
-        fault("3 no book", HEAD, "follows b s;", 3, 10);
-        fault("3 not told ahead", "", "state s;rule s t to s;turn t;", 3, 15);
-        fault("3 unknown", HEAD, "follows b zzz;", 3, 10);
-        right("state a;turn aa;turn aaa;reader ab;reader b;");
+        Checks.faultyShelf("3 an offer's", HEAD + "offer o costs 1 tells b;", "watch o costs 1 guards b;", 3, 6);
+        Checks.faultyShelf("3 a watch's", HEAD + "watch w costs 1 guards b;", "state w;", 3, 6);
+        Checks.faultyShelf("3 no state", HEAD, "rule t t to s;", 3, 5);
+        Checks.faultyShelf("3 no turn", HEAD, "rule s s to s;", 3, 7);
+        Checks.faultyShelf("3 no state", HEAD, "rule s t to t;", 3, 12);
+        Checks.faultyShelf("3 no state", HEAD, "book d from b misses 1;", 3, 12);
+        Checks.faultyShelf("3 no turn", HEAD, "book d from s misses 1 t s;", 3, 25);
+        Checks.faultyShelf("3 no turn", HEAD, "finale g t f;", 3, 11);
+        Checks.faultyShelf("3 itself", HEAD, "finale g g;", 3, 9);
+        Checks.faultyShelf("3 no book", HEAD, "hint f at 1 is t by r;", 3, 5);
+        Checks.faultyShelf("3 no turn", HEAD, "hint b at 1 is s by r;", 3, 15);
+        Checks.faultyShelf("3 no reader", HEAD, "hint b at 1 is t by b;", 3, 20);
+        Checks.faultyShelf("3 no book", HEAD, "offer o costs 1 tells b f;", 3, 24);
+        Checks.faultyShelf("3 itself", HEAD, "offer o costs 1 tells o;", 3, 22);
+        Checks.faultyShelf("3 no book", HEAD, "watch w costs 1 guards s;", 3, 23);
+        Checks.faultyShelf("3 no book", HEAD, "follows s b;", 3, 8);
+        Checks.faultyShelf("3 no book", HEAD, "follows b s;", 3, 10);
+        Checks.faultyShelf("3 not told ahead", "", "state s;rule s t to s;turn t;", 3, 15);
+        Checks.faultyShelf("3 unknown", HEAD, "follows b zzz;", 3, 10);
+        Checks.rightShelf("state a;turn aa;turn aaa;reader ab;reader b;");
     }
 
     private static void numbers() {
-        fault("4", "", "turn t odd 10;", 4, 11);
-        fault("4", "", "turn t odd 9999;", 4, 11);
-        right("turn t odd 0;turn u odd 9;turn v odd 0009;");
-        fault("4", HEAD, "book d from s misses 0;", 4, 21);
-        fault("4", HEAD, "book d from s misses 7;", 4, 21);
-        right(HEAD + "book d from s misses 6;");
-        fault("4", HEAD, "hint b at 0 is t by r;", 4, 10);
-        fault("4", HEAD, "hint b at 4 is t by r;", 4, 10);
-        right(HEAD + "hint b at 3 is t by r;");
-        fault("4", HEAD, "hint c at 2 is t by r;", 4, 10);
-        fault("4", HEAD, "offer o costs 100 tells b;", 4, 14);
-        right(HEAD + "offer o costs 99 tells b;offer p costs 0 tells;");
-        fault("4", HEAD, "watch w costs 100 guards b;", 4, 14);
-        right(HEAD + "watch w costs 99 guards b;watch v costs 0 guards;");
+        Checks.faultyShelf("4", "", "turn t odd 10;", 4, 11);
+        Checks.faultyShelf("4", "", "turn t odd 9999;", 4, 11);
+        Checks.rightShelf("turn t odd 0;turn u odd 9;turn v odd 0009;");
+        Checks.faultyShelf("4", HEAD, "book d from s misses 0;", 4, 21);
+        Checks.faultyShelf("4", HEAD, "book d from s misses 7;", 4, 21);
+        Checks.rightShelf(HEAD + "book d from s misses 6;");
+        Checks.faultyShelf("4", HEAD, "hint b at 0 is t by r;", 4, 10);
+        Checks.faultyShelf("4", HEAD, "hint b at 4 is t by r;", 4, 10);
+        Checks.rightShelf(HEAD + "hint b at 3 is t by r;");
+        Checks.faultyShelf("4", HEAD, "hint c at 2 is t by r;", 4, 10);
+        Checks.faultyShelf("4", HEAD, "offer o costs 100 tells b;", 4, 14);
+        Checks.rightShelf(HEAD + "offer o costs 99 tells b;offer p costs 0 tells;");
+        Checks.faultyShelf("4", HEAD, "watch w costs 100 guards b;", 4, 14);
+        Checks.rightShelf(HEAD + "watch w costs 99 guards b;watch v costs 0 guards;");
     }
 
     private static void following() {
-        fault("5", HEAD, "follows b b;", 5, 10);
-        right(HEAD + "follows b c;follows c b;follows b c;");
-        fault("5 at the name, not at the end", HEAD, "follows c c", 5, 10);
+        Checks.faultyShelf("5", HEAD, "follows b b;", 5, 10);
+        Checks.rightShelf(HEAD + "follows b c;follows c b;follows b c;");
+        Checks.faultyShelf("5 at the name, not at the end", HEAD, "follows c c", 5, 10);
     }
 
     private static String times(int n, String part) {
@@ -271,8 +256,8 @@ public final class TextsTest {
     }
 
     private static void limit(String part, int most) {
-        right("state s;turn t;book b from s misses 3;reader r;" + times(most, part));
-        fault("6", "state s;turn t;book b from s misses 3;reader r;" + times(most, part),
+        Checks.rightShelf("state s;turn t;book b from s misses 3;reader r;" + times(most, part));
+        Checks.faultyShelf("6", "state s;turn t;book b from s misses 3;reader r;" + times(most, part),
             part.replace('#', 'z'), 6, 0);
     }
 
@@ -285,26 +270,26 @@ public final class TextsTest {
         limit("hint b at 1 is t by r;", 12);
         limit("offer x# costs 1 tells b;", 6);
         limit("watch x# costs 1 guards b;", 8);
-        right("state s;turn t;" + times(30, "rule s t to s;"));
-        right(HEAD + times(30, "follows b c;"));
-        fault("6 at the word, whatever comes", times(8, "state x#;"), "state", 6, 0);
-        right(HEAD + "book d from s misses 1 t t t t t t t t t t;");
-        fault("6 an 11th page", HEAD, "book d from s misses 1 t t t t t t t t t t t;", 6, 43);
-        fault("3 is less than 6", HEAD, "book d from s misses 1 t t t t t t t t t t s;", 3, 43);
-        fault("2 is less than 6", HEAD, "book d from s misses 1 t t t t t t t t t t 1;", 2, 43);
-        right(HEAD + "finale g t t t t t t;");
-        fault("6 a seventh turn", HEAD, "finale g t t t t t t t;", 6, 21);
-        fault("3 is less than 6", HEAD, "finale g t t t t t t f;", 3, 21);
+        Checks.rightShelf("state s;turn t;" + times(30, "rule s t to s;"));
+        Checks.rightShelf(HEAD + times(30, "follows b c;"));
+        Checks.faultyShelf("6 at the word, whatever comes", times(8, "state x#;"), "state", 6, 0);
+        Checks.rightShelf(HEAD + "book d from s misses 1 t t t t t t t t t t;");
+        Checks.faultyShelf("6 an 11th page", HEAD, "book d from s misses 1 t t t t t t t t t t t;", 6, 43);
+        Checks.faultyShelf("3 is less than 6", HEAD, "book d from s misses 1 t t t t t t t t t t s;", 3, 43);
+        Checks.faultyShelf("2 is less than 6", HEAD, "book d from s misses 1 t t t t t t t t t t 1;", 2, 43);
+        Checks.rightShelf(HEAD + "finale g t t t t t t;");
+        Checks.faultyShelf("6 a seventh turn", HEAD, "finale g t t t t t t t;", 6, 21);
+        Checks.faultyShelf("3 is less than 6", HEAD, "finale g t t t t t t f;", 3, 21);
     }
 
     private static void firstAndLeast() {
-        fault("the first along the text", "", "state s;turn s;?", 3, 13);
-        fault("the first along the text", "", "turn t odd 10 ?", 4, 11);
-        fault("1 is the least", "", "state ?;", 1, 6);
-        fault("1 is the least, for a name", "", "state 123456;", 1, 6);
-        fault("1 is the least, for a number", "", "turn t odd ?;", 1, 11);
-        fault("1 is the least, for a semicolon", "", "turn t ?", 1, 7);
-        fault("1 is the least, for a page", HEAD, "book d from s misses 1 t t t t t t t t t t ?;", 1, 43);
-        fault("1 where a part must stand", "", "?", 1, 0);
+        Checks.faultyShelf("the first along the text", "", "state s;turn s;?", 3, 13);
+        Checks.faultyShelf("the first along the text", "", "turn t odd 10 ?", 4, 11);
+        Checks.faultyShelf("1 is the least", "", "state ?;", 1, 6);
+        Checks.faultyShelf("1 is the least, for a name", "", "state 123456;", 1, 6);
+        Checks.faultyShelf("1 is the least, for a number", "", "turn t odd ?;", 1, 11);
+        Checks.faultyShelf("1 is the least, for a semicolon", "", "turn t ?", 1, 7);
+        Checks.faultyShelf("1 is the least, for a page", HEAD, "book d from s misses 1 t t t t t t t t t t ?;", 1, 43);
+        Checks.faultyShelf("1 where a part must stand", "", "?", 1, 0);
     }
 }

@@ -43,91 +43,76 @@ public final class WeeksTest {
         Checks.fine("56 without a shelf", y, y.live(5), 2);
     }
 
-    private static void fault(String what, String text, int kind, int at) {
-        LastPages x = Checks.with(THREE);
-        Checks.refused(what + ": " + text, x, Checks.weeks(x, text), 10);
-        Checks.due(what + ": fault of " + text, x.fault(0), kind);
-        Checks.due(what + ": place of " + text, x.fault(1), at);
-        Checks.refused(what + ": no weeks by " + text, x, x.live(0), 8);
-    }
-
-    private static void right(String text) {
-        LastPages x = Checks.with(THREE);
-        Checks.weeks(x, text);
-        Checks.due("right: " + text, x.status(), 0);
-        Checks.due("no fault: " + text, x.fault(0), 0);
-    }
-
     private static void faults() {
-        fault("1", "stop;?", 1, 5);
-        fault("1", "loop 00001;end;", 1, 5);
-        fault("1", "when left ! 1;end;", 1, 10);
-        fault("2", "go;", 2, 0);
-        fault("2", ";", 2, 0);
-        fault("2", "state s;", 2, 0);
-        fault("2", "done ba;", 2, 0);
-        fault("2", "stop stop;", 2, 5);
-        fault("2 the end", "stop ", 2, 5);
-        fault("2", "bind;", 2, 4);
-        fault("2", "bind ba;", 2, 7);
-        fault("2", "bind ba fa fb;", 2, 11);
-        fault("2", "bind ba abcdefghi;", 2, 8);
-        fault("2", "loose;", 2, 5);
-        fault("2", "loose ba fa;", 2, 9);
-        fault("2", "call 1;", 2, 5);
-        fault("2", "guess end;", 2, 6);
-        fault("2", "when ba;end;", 2, 5);
-        fault("2", "when;end;", 2, 4);
-        fault("2", "when done;end;", 2, 9);
-        fault("2", "when done ba = 1;end;", 2, 13);
-        fault("2", "when left ba < 1;end;", 2, 10);
-        fault("2", "when left ; 1;end;", 2, 10);
-        fault("2", "when left <;end;", 2, 11);
-        fault("2", "when left < = 1;end;", 2, 12);
-        fault("2", "when odd < 1;end;", 2, 9);
-        fault("2", "when odd ba 1;end;", 2, 12);
-        fault("2", "when odd ba <;end;", 2, 13);
-        fault("2", "loop;end;", 2, 4);
-        fault("2", "loop ba;end;", 2, 5);
-        fault("2", "loop 2 2;end;", 2, 7);
-        fault("2 no beginning", "end;", 2, 0);
-        fault("2 no beginning", "loop 2;end;end;", 2, 11);
-        fault("2 no end", "loop 2;stop;", 2, 12);
-        fault("2 no end", "loop 2;when left = 0;end; ", 2, 26);
-        fault("2", "loop 2;end", 2, 10);
-        fault("2", "loop 2;end stop;", 2, 11);
+        Checks.faultyWeeks("1", THREE, "stop;?", 1, 5);
+        Checks.faultyWeeks("1", THREE, "loop 00001;end;", 1, 5);
+        Checks.faultyWeeks("1", THREE, "when left ! 1;end;", 1, 10);
+        Checks.faultyWeeks("2", THREE, "go;", 2, 0);
+        Checks.faultyWeeks("2", THREE, ";", 2, 0);
+        Checks.faultyWeeks("2", THREE, "state s;", 2, 0);
+        Checks.faultyWeeks("2", THREE, "done ba;", 2, 0);
+        Checks.faultyWeeks("2", THREE, "stop stop;", 2, 5);
+        Checks.faultyWeeks("2 the end", THREE, "stop ", 2, 5);
+        Checks.faultyWeeks("2", THREE, "bind;", 2, 4);
+        Checks.faultyWeeks("2", THREE, "bind ba;", 2, 7);
+        Checks.faultyWeeks("2", THREE, "bind ba fa fb;", 2, 11);
+        Checks.faultyWeeks("2", THREE, "bind ba abcdefghi;", 2, 8);
+        Checks.faultyWeeks("2", THREE, "loose;", 2, 5);
+        Checks.faultyWeeks("2", THREE, "loose ba fa;", 2, 9);
+        Checks.faultyWeeks("2", THREE, "call 1;", 2, 5);
+        Checks.faultyWeeks("2", THREE, "guess end;", 2, 6);
+        Checks.faultyWeeks("2", THREE, "when ba;end;", 2, 5);
+        Checks.faultyWeeks("2", THREE, "when;end;", 2, 4);
+        Checks.faultyWeeks("2", THREE, "when done;end;", 2, 9);
+        Checks.faultyWeeks("2", THREE, "when done ba = 1;end;", 2, 13);
+        Checks.faultyWeeks("2", THREE, "when left ba < 1;end;", 2, 10);
+        Checks.faultyWeeks("2", THREE, "when left ; 1;end;", 2, 10);
+        Checks.faultyWeeks("2", THREE, "when left <;end;", 2, 11);
+        Checks.faultyWeeks("2", THREE, "when left < = 1;end;", 2, 12);
+        Checks.faultyWeeks("2", THREE, "when odd < 1;end;", 2, 9);
+        Checks.faultyWeeks("2", THREE, "when odd ba 1;end;", 2, 12);
+        Checks.faultyWeeks("2", THREE, "when odd ba <;end;", 2, 13);
+        Checks.faultyWeeks("2", THREE, "loop;end;", 2, 4);
+        Checks.faultyWeeks("2", THREE, "loop ba;end;", 2, 5);
+        Checks.faultyWeeks("2", THREE, "loop 2 2;end;", 2, 7);
+        Checks.faultyWeeks("2 no beginning", THREE, "end;", 2, 0);
+        Checks.faultyWeeks("2 no beginning", THREE, "loop 2;end;end;", 2, 11);
+        Checks.faultyWeeks("2 no end", THREE, "loop 2;stop;", 2, 12);
+        Checks.faultyWeeks("2 no end", THREE, "loop 2;when left = 0;end; ", 2, 26);
+        Checks.faultyWeeks("2", THREE, "loop 2;end", 2, 10);
+        Checks.faultyWeeks("2", THREE, "loop 2;end stop;", 2, 11);
         String[] broken = {"bind", "bind ba", "bind ba fa", "loose", "loose ba", "call", "call r", "guess", "guess ba", "when",
             "when done", "when done ba", "when left", "when left <", "when left < 1", "when odd", "when odd ba",
             "when odd ba =", "when odd ba = 1", "loop", "loop 3", "stop", "loop 3;end"};
         for (String step : broken) {
-            fault("2", step + " stop;end;", 2, step.length() + 1);
+            Checks.faultyWeeks("2", THREE, step + " stop;end;", 2, step.length() + 1);
         }
-        fault("3", "bind fa fa;", 3, 5);
-        fault("3", "bind ba ba;", 3, 8);
-        fault("3", "bind nobody fa;", 3, 5);
-        fault("3", "loose fa;", 3, 6);
-        fault("3", "call ba;", 3, 5);
-        fault("3", "call s;", 3, 5);
-        fault("3", "guess r;", 3, 6);
-        fault("3", "when done fa;end;", 3, 10);
-        fault("3", "when odd t < 1;end;", 3, 9);
-        fault("4", "loop 0;end;", 4, 5);
-        fault("4", "loop 100;end;", 4, 5);
-        fault("4", "when left < 10;end;", 4, 12);
-        fault("4", "when odd ba < 100;end;", 4, 14);
-        right("loop 1;end;loop 99;end;when left=0;end;when left>9;end;when odd ba<0;end;when odd bb=99;end;");
-        right("loop 1;when done ba;loop 2;stop;end;end;end;");
-        fault("7", "loop 1;when done ba;loop 2;loop 3;", 7, 27);
-        fault("7", "loop 1;loop 1;loop 2;when done ba;", 7, 21);
-        right("loop 1;loop 1;loop 2;end;loop 2;end;end;loop 2;loop 3;end;end;end;");
-        right("stop;".repeat(30));
-        fault("6", "stop;".repeat(30) + "stop;", 6, 150);
-        right("loop 1;stop;end;".repeat(15));
-        fault("6 end is none", "loop 1;stop;end;".repeat(15) + "when left < 1;end;", 6, 240);
-        fault("6 is less than 7", "stop;".repeat(27) + "loop 1;loop 1;loop 1;loop 1;", 6, 156);
-        fault("2 is less than 6", "stop;".repeat(30) + "go;", 2, 150);
-        fault("2 an end is no step but has no beginning", "stop;".repeat(30) + "end;", 2, 150);
-        fault("the first along the text", "call ba;?", 3, 5);
+        Checks.faultyWeeks("3", THREE, "bind fa fa;", 3, 5);
+        Checks.faultyWeeks("3", THREE, "bind ba ba;", 3, 8);
+        Checks.faultyWeeks("3", THREE, "bind nobody fa;", 3, 5);
+        Checks.faultyWeeks("3", THREE, "loose fa;", 3, 6);
+        Checks.faultyWeeks("3", THREE, "call ba;", 3, 5);
+        Checks.faultyWeeks("3", THREE, "call s;", 3, 5);
+        Checks.faultyWeeks("3", THREE, "guess r;", 3, 6);
+        Checks.faultyWeeks("3", THREE, "when done fa;end;", 3, 10);
+        Checks.faultyWeeks("3", THREE, "when odd t < 1;end;", 3, 9);
+        Checks.faultyWeeks("4", THREE, "loop 0;end;", 4, 5);
+        Checks.faultyWeeks("4", THREE, "loop 100;end;", 4, 5);
+        Checks.faultyWeeks("4", THREE, "when left < 10;end;", 4, 12);
+        Checks.faultyWeeks("4", THREE, "when odd ba < 100;end;", 4, 14);
+        Checks.rightWeeks(THREE, "loop 1;end;loop 99;end;when left=0;end;when left>9;end;when odd ba<0;end;when odd bb=99;end;");
+        Checks.rightWeeks(THREE, "loop 1;when done ba;loop 2;stop;end;end;end;");
+        Checks.faultyWeeks("7", THREE, "loop 1;when done ba;loop 2;loop 3;", 7, 27);
+        Checks.faultyWeeks("7", THREE, "loop 1;loop 1;loop 2;when done ba;", 7, 21);
+        Checks.rightWeeks(THREE, "loop 1;loop 1;loop 2;end;loop 2;end;end;loop 2;loop 3;end;end;end;");
+        Checks.rightWeeks(THREE, "stop;".repeat(30));
+        Checks.faultyWeeks("6", THREE, "stop;".repeat(30) + "stop;", 6, 150);
+        Checks.rightWeeks(THREE, "loop 1;stop;end;".repeat(15));
+        Checks.faultyWeeks("6 end is none", THREE, "loop 1;stop;end;".repeat(15) + "when left < 1;end;", 6, 240);
+        Checks.faultyWeeks("6 is less than 7", THREE, "stop;".repeat(27) + "loop 1;loop 1;loop 1;loop 1;", 6, 156);
+        Checks.faultyWeeks("2 is less than 6", THREE, "stop;".repeat(30) + "go;", 2, 150);
+        Checks.faultyWeeks("2 an end is no step but has no beginning", THREE, "stop;".repeat(30) + "end;", 2, 150);
+        Checks.faultyWeeks("the first along the text", THREE, "call ba;?", 3, 5);
     }
 
     /** A new object that has lived through some weeks, asked for its steps and all tallies. */
@@ -217,7 +202,7 @@ public final class WeeksTest {
             LastPages x = lived("guess ba;", seed, 1, 0, 1, 0, 1, 0);
             Checks.fine("56 guess by " + seed, x, x.book(0, 5), drawn[seed]);
         }
-        // 9999 * 2971 + 10687 leaves 29884 by 65536, whose 8th part is 3735, which leaves 0 by 3.
+        // 9999 * 2971 + 10687 leaves 29908 by 65536, whose 8th part is 3738, which leaves 0 by 3.
         LastPages x = lived("guess ba;", 9999, 1, 0, 1, 0, 1, 0);
         Checks.fine("56 guess by 9999", x, x.book(0, 5), 0);
         // The second draw by 0: 10687 * 2972 leaves 42340, 5292, which leaves 0 by 2 and by 3, 1 by 1 is 0.
