@@ -1,3 +1,5 @@
+import java.math.BigInteger;
+
 /** The sentences of promises 29 to 60: each with its bounds, and each STATUS that it names. */
 final class BoundsOfAnswers {
     /** What is no book, finale and so on of three; 32 and 33 are 0 and 1 for a shift. */
@@ -65,7 +67,8 @@ final class BoundsOfAnswers {
             LastPages x = Rich.object();
             Checks.fine("the first", x, x.bestAt(1, 1), 0);
             Checks.fine("the last", x, x.bestAt(1, 2), 1);
-            LastPages y = Checks.with(Shelves.free(2, "book k from s misses 6;reader r;hint k at 1 is b by r;hint k at 6 is b by r;"));
+            LastPages y = Checks.with(Shelves.free(2, "book k from s misses 6;reader r;hint k at 1 is b by r;hint k "
+                + "at 6 is b by r;"));
             int[] due = {1, 0, 0, 0, 0, 1};
             for (int place = 1; place <= 6; place++) {
                 Checks.fine("place " + place, y, y.bestAt(0, place), due[place - 1]);
@@ -380,7 +383,8 @@ final class BoundsOfAnswers {
             String books = "state s;book ba from s misses 1;book bb from s misses 1;book bc from s misses 1;";
             LastPages none = Checks.with(books);
             Checks.fine("no watches: the first", none, none.barest(), 0);
-            LastPages y = Checks.with(books + "watch wa costs 1 guards ba;watch wb costs 0 guards ba;watch wc costs 1 guards bb bc;");
+            LastPages y = Checks.with(books + "watch wa costs 1 guards ba;watch wb costs 0 guards ba;watch wc costs 1 "
+                + "guards bb bc;");
             Checks.fine("two with one each: the first of them", y, y.barest(), 1);
             LastPages z = Checks.with(books + "watch wa costs 1 guards ba bb bc;watch wb costs 9 guards ba bb;");
             Checks.fine("the last", z, z.barest(), 2);
@@ -414,7 +418,8 @@ final class BoundsOfAnswers {
             Sentences.refused(8, Rich::plain, y -> y.live(0));
             Sentences.refused(8, LastPages::new, y -> y.live(9999));
         });
-        Sentences.promise(57, "Of live() latest with STATUS 0, whatever came since, what 0: MISSED, 1: FINALES that were BOUND (by bind and guess), "
+        Sentences.promise(57, "Of live() latest with STATUS 0, whatever came since, what 0: MISSED, 1: FINALES that "
+            + "were BOUND (by bind and guess), "
             + "2: that were LOOSED, 3: BOUND by guess,", () -> {
             LastPages x = Rich.object();
             x.call(1, false);
@@ -466,7 +471,8 @@ final class BoundsOfAnswers {
     }
 
     private static void mean() {
-        Sentences.promise(58, "The FRACTION is the mean of how many BOOKS have a FINALE behind the WEEKS, by so many seeds (1 to 20) from one on", () -> {
+        Sentences.promise(58, "The FRACTION is the mean of how many BOOKS have a FINALE behind the WEEKS, by so many "
+            + "seeds (1 to 20) from one on", () -> {
             LastPages x = Rich.object();
             Checks.fine("one seed", x, x.mean(0, 1));
             Checks.fraction("two", x, 2, 1);
@@ -485,7 +491,8 @@ final class BoundsOfAnswers {
                     }
                     Checks.fine("mean", y, y.mean(seed, many));
                     Checks.due("of " + many + " from " + seed + " on", y.top() * many, sum * y.bottom());
-                    Checks.due("no common divisor", java.math.BigInteger.valueOf(y.top()).gcd(java.math.BigInteger.valueOf(y.bottom())).intValue(), 1);
+                    BigInteger top = BigInteger.valueOf(y.top());
+                    Checks.due("no common divisor", top.gcd(BigInteger.valueOf(y.bottom())).intValue(), 1);
                 }
             }
             LastPages none = new LastPages();

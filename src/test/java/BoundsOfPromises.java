@@ -11,7 +11,8 @@ final class BoundsOfPromises {
         tape();
         shelf();
         weeks();
-        Sentences.promise(12, "Of the latest of these with STATUS 0 or 10, what 0: the FAULT (0 without one), 1: its place (NONE without).",
+        Sentences.promise(12, "Of the latest of these with STATUS 0 or 10, what 0: the FAULT (0 without one), 1: its "
+            + "place (NONE without).",
             BoundsOfPromises::faultsTold);
         Sentences.promise(12, "NONE for others, and ahead of any.", BoundsOfPromises::faultsNotTold);
         many();
@@ -154,7 +155,8 @@ final class BoundsOfPromises {
     }
 
     private static void pouring() {
-        Sentences.promise(8, "So many numbers from place i on of a TRAY come to place j on of another one, or the same, as they were:", () -> {
+        Sentences.promise(8, "So many numbers from place i on of a TRAY come to place j on of another one, or the "
+            + "same, as they were:", () -> {
             LastPages x = rows();
             Checks.fine("to another", x, x.pour(0, 57, 1, 0, 3));
             Checks.fine("its first", x, x.read(1, 0), 157);
@@ -196,7 +198,8 @@ final class BoundsOfPromises {
     }
 
     private static void tape() {
-        Sentences.promise(9, "Twenty bytes come behind those on the tape, the highest of each int first: how many it has;", () -> {
+        Sentences.promise(9, "Twenty bytes come behind those on the tape, the highest of each int first: how many it "
+            + "has;", () -> {
             // "state s;" filled up by blanks, then "turn t;" and a byte that begins no token, the sign bit of which is set.
             LastPages x = new LastPages();
             Checks.due("twenty", x.feed(0x73746174, 0x6520733b, 0x20202020, 0x20202020, 0x20202020), 20);
@@ -350,15 +353,18 @@ final class BoundsOfPromises {
     }
 
     private static void many() {
-        Sentences.promise(13, "STATES (what 0), TURNS (1), BOOKS (2), FINALES (3), READERS (4), HINTS (5), OFFERS (6), WATCHES (7), RULES (8);", () -> {
+        Sentences.promise(13, "STATES (what 0), TURNS (1), BOOKS (2), FINALES (3), READERS (4), HINTS (5), OFFERS (6),"
+            + " WATCHES (7), RULES (8);", () -> {
             LastPages x = new LastPages();
             for (int what = 0; what <= 8; what++) {
                 Checks.fine("none of " + what, x, x.many(what), 0);
             }
-            String full = "state sa;state sb;state sc;state sd;state se;state sf;state sg;state sh;turn ta;turn tb;turn tc;turn td;"
+            String full = "state sa;state sb;state sc;state sd;state se;state sf;state sg;state sh;turn ta;turn tb;"
+                + "turn tc;turn td;"
                 + "turn te;turn tf;turn tg;turn th;reader ra;reader rb;reader rc;reader rd;reader re;reader rf;"
                 + "book ba from sa misses 1;book bb from sa misses 1;book bc from sa misses 1;book bd from sa misses 1;"
-                + "book be from sa misses 1;book bf from sa misses 1;finale fa ta;finale fb ta;finale fc ta;finale fd ta;finale fe ta;"
+                + "book be from sa misses 1;book bf from sa misses 1;finale fa ta;finale fb ta;finale fc ta;finale fd "
+                + "ta;finale fe ta;"
                 + "finale ff ta;finale fg ta;finale fh ta;";
             Checks.fine("full of books", x, Checks.shelf(x, full), 6);
             for (int state = 0; state < 8; state++) {
@@ -439,7 +445,8 @@ final class BoundsOfPromises {
     }
 
     private static void books() {
-        Sentences.promise(16, "Of a BOOK, what 0: the STATE FROM which it goes, 1: how many PAGES are there, 2: how many it MISSES,", () -> {
+        Sentences.promise(16, "Of a BOOK, what 0: the STATE FROM which it goes, 1: how many PAGES are there, 2: how "
+            + "many it MISSES,", () -> {
             LastPages x = Rich.object();
             int[][] due = {{0, 0, 1}, {0, 1, 2}, {2, 1, 1}};
             for (int book = 0; book < 3; book++) {
@@ -506,7 +513,8 @@ final class BoundsOfPromises {
             Sentences.refused(8, Rich::object, y -> y.finale(0, 0));
             Sentences.refused(8, Rich::object, y -> y.finale(0, 2));
         });
-        Sentences.promise(19, "Of a HINT, what 0: the BOOK, 1: the place, 2: the TURN, 3: the READER (5: no such HINT, what).", () -> {
+        Sentences.promise(19, "Of a HINT, what 0: the BOOK, 1: the place, 2: the TURN, 3: the READER (5: no such HINT,"
+            + " what).", () -> {
             LastPages x = Rich.object();
             int[][] due = {{0, 1, 0, 0}, {1, 2, 1, 1}, {1, 1, 1, 1}};
             for (int hint = 0; hint < 3; hint++) {
@@ -514,7 +522,8 @@ final class BoundsOfPromises {
                     Checks.fine("hint " + hint + ", what " + what, x, x.hint(hint, what), due[hint][what]);
                 }
             }
-            LastPages y = Checks.with("state s;turn t;book b from s misses 2;reader r;" + "hint b at 1 is t by r;".repeat(11) + "hint b at 2 is t by r;");
+            LastPages y = Checks.with("state s;turn t;book b from s misses 2;reader r;"
+                + "hint b at 1 is t by r;".repeat(11) + "hint b at 2 is t by r;");
             Checks.fine("the twelfth", y, y.hint(11, 1), 2);
             Checks.refused("a thirteenth", y, y.hint(12, 1), 5);
             for (int off : new int[] {-1, 3, FAR[0], FAR[1]}) {

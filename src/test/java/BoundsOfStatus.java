@@ -9,7 +9,8 @@ final class BoundsOfStatus {
     static void run() {
         Sentences.terms("STATUS of a call is the first of these that holds:", BoundsOfStatus::first);
         kinds();
-        Sentences.terms("A call with another STATUS than 0 gives NONE, or false, and changes nothing but STATUS", BoundsOfStatus::unchanged);
+        Sentences.terms("A call with another STATUS than 0 gives NONE, or false, and changes nothing but STATUS",
+            BoundsOfStatus::unchanged);
         Sentences.terms("(but shelf(), weeks() with 10 the tape, and what fault() tells).", BoundsOfStatus::texts);
         Sentences.terms("status(), fault(), feed(), top(), bottom() have none.", BoundsOfStatus::none);
         interfaces();
@@ -211,9 +212,11 @@ final class BoundsOfStatus {
         Checks.due("status still", x.status(), 8);
     }
 
-    private static final String CALLS = "TRAYS: tray write read pour; texts: feed shelf weeks fault many rule odd book page finale hint "
+    private static final String CALLS = "TRAYS: tray write read pour; texts: feed shelf weeks fault many rule odd "
+        + "book page finale hint "
         + "offer watch copyFinale; what is done: bind loose call strange close lead; endings: endings hopeless best bestAt next "
-        + "chance may isEnding; finales: fits finalesOf booksOf oddness match ways clash clashSet finish finishSet liars liarSet; "
+        + "chance may isEnding; finales: fits finalesOf booksOf oddness match ways clash clashSet finish finishSet "
+        + "liars liarSet; "
         + "offers, watches: known buy buySet cheapest guard guardSet barest; WEEKS: live lived mean; MARKS: mark back";
 
     private static void interfaces() {

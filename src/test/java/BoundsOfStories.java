@@ -21,7 +21,8 @@ final class BoundsOfStories {
     private static void pages() {
         String text = "state s;state p;state q;turn t;turn u;rule s t to p;rule p t to q;rule q t to s;rule q u to q;";
         Sentences.terms("A BOOK's PAGES are gone by from its STATE on, PAGE by PAGE, by RULES;", () -> {
-            LastPages x = Checks.with(text + "book k from s misses 1 t t u u t t;book l from q misses 1 u t;book m from p misses 1;");
+            LastPages x = Checks.with(text + "book k from s misses 1 t t u u t t;book l from q misses 1 u t;book m "
+                + "from p misses 1;");
             Checks.fine("six pages", x, x.book(0, 3), 1);
             Checks.fine("two pages", x, x.book(1, 3), 0);
             Checks.fine("no pages", x, x.book(2, 3), 1);
@@ -47,9 +48,12 @@ final class BoundsOfStories {
     }
 
     private static void endings() {
-        Sentences.terms("An ENDING of a BOOK: as many TURNS as it MISSES that lead by RULES from its PLACE to a FINAL STATE,", () -> {
-            LastPages x = Checks.with("state s final;state p;state q final;turn t;turn u;rule s t to p;rule p t to q;rule q u to q;"
-                + "book k from s misses 1;book l from s misses 2;book m from s misses 3;book n from s misses 6;book o from p misses 1;"
+        Sentences.terms("An ENDING of a BOOK: as many TURNS as it MISSES that lead by RULES from its PLACE to a FINAL "
+            + "STATE,", () -> {
+            LastPages x = Checks.with("state s final;state p;state q final;turn t;turn u;rule s t to p;rule p t to q;"
+                + "rule q u to q;"
+                + "book k from s misses 1;book l from s misses 2;book m from s misses 3;book n from s misses 6;book o "
+                + "from p misses 1;"
                 + "book w from s misses 2 u;");
             long[] due = {0, 1, 1, 1, 1, 0};
             for (int book = 0; book < due.length; book++) {
@@ -145,7 +149,8 @@ final class BoundsOfStories {
             x.lead(1, 1, -1);
             x.strange(2, 9);
             Checks.fine("b, then a", x, x.bestAt(0, 1), 1);
-            LastPages y = Checks.with("state s;state p;state q;state e final;turn a;turn b;rule s b to p;rule p a to p;rule p b to q;"
+            LastPages y = Checks.with("state s;state p;state q;state e final;turn a;turn b;rule s b to p;rule p a to "
+                + "p;rule p b to q;"
                 + "rule q a to e;rule q b to q;book k from s misses 4;");
             // b a b a, b b b a: both of four.
             Checks.fine("two endings", y, y.endings(0), 2);
@@ -157,9 +162,11 @@ final class BoundsOfStories {
     }
 
     private static void next() {
-        Sentences.terms("NEXT: the place of a BOOK at which the greatest number of ENDINGS that have one and the same TURN there is the least,", () -> {
+        Sentences.terms("NEXT: the place of a BOOK at which the greatest number of ENDINGS that have one and the same "
+            + "TURN there is the least,", () -> {
             // From s any of two, then one, then any of three.
-            LastPages x = Checks.with("state s;state p;state q;state e final;turn a;turn b;turn c;rule s a to p;rule s b to p;rule p a to q;"
+            LastPages x = Checks.with("state s;state p;state q;state e final;turn a;turn b;turn c;rule s a to p;rule "
+                + "s b to p;rule p a to q;"
                 + "rule q a to e;rule q b to e;rule q c to e;book k from s misses 3;");
             Checks.fine("the last place", x, x.next(0), 3);
             x.lead(2, 2, -1);
@@ -172,7 +179,8 @@ final class BoundsOfStories {
             Checks.fine("the middle", x, x.next(0), 2);
         });
         Sentences.terms("of several the first (none, if there are not two ENDINGS).", () -> {
-            LastPages x = Checks.with(Shelves.free(2, "book k from s misses 6;book l from s misses 1;reader r;hint l at 1 is a by r;"));
+            LastPages x = Checks.with(Shelves.free(2, "book k from s misses 6;book l from s misses 1;reader r;hint l "
+                + "at 1 is a by r;"));
             Checks.fine("of six", x, x.next(0), 1);
             Checks.refused("one ending", x, x.next(1), 8);
             x.call(0, true);
@@ -293,7 +301,8 @@ final class BoundsOfStories {
     }
 
     private static void finish() {
-        Sentences.terms("FINISH: the fewest FINALES, so that each BOOK has one of them that FITS (one may serve several);", () -> {
+        Sentences.terms("FINISH: the fewest FINALES, so that each BOOK has one of them that FITS (one may serve "
+            + "several);", () -> {
             finishAs(Shelves.fits(8), 0, 0);
             finishAs(Shelves.fits(8, 128), 1, 128);
             finishAs(Shelves.fits(8, 128, 192, 160, 144, 136, 129), 1, 128);
@@ -328,7 +337,8 @@ final class BoundsOfStories {
             Checks.fine("nothing of the last", x, x.known(2), 32);
             LastPages y = Checks.with(chain + "follows bf ba;offer ob costs 1 tells bd;");
             Checks.fine("all round", y, y.known(1), 63);
-            LastPages z = Checks.with(BOOKS + "follows ba bb;follows bb bc;follows bc bd;follows bd be;follows be bf;offer o costs 1 tells ba;");
+            LastPages z = Checks.with(BOOKS + "follows ba bb;follows bb bc;follows bc bd;follows bd be;follows be bf;"
+                + "offer o costs 1 tells ba;");
             Checks.fine("told the other way round", z, z.known(1), 63);
         });
     }
@@ -339,8 +349,10 @@ final class BoundsOfStories {
     }
 
     private static void buying() {
-        Sentences.terms("BUY for so much: the set of OFFERS that COST no more together by which the most BOOKS are KNOWN;", () -> {
-            LastPages x = Checks.with(BOOKS + "offer oa costs 5 tells ba;offer ob costs 6 tells bb bc;follows ba bd;follows bd be;");
+        Sentences.terms("BUY for so much: the set of OFFERS that COST no more together by which the most BOOKS are "
+            + "KNOWN;", () -> {
+            LastPages x = Checks.with(BOOKS + "offer oa costs 5 tells ba;offer ob costs 6 tells bb bc;follows ba bd;"
+                + "follows bd be;");
             buyAs(x, 0, 0, 0);
             buyAs(x, 4, 0, 0);
             buyAs(x, 5, 3, 1);
@@ -355,27 +367,33 @@ final class BoundsOfStories {
             buyAs(y, 594, 6, 63);
         });
         Sentences.terms("of several the cheapest,", () -> {
-            LastPages x = Checks.with(BOOKS + "offer oa costs 5 tells ba bb;offer ob costs 2 tells ba;offer oc costs 2 tells bb;");
+            LastPages x = Checks.with(BOOKS + "offer oa costs 5 tells ba bb;offer ob costs 2 tells ba;offer oc costs "
+                + "2 tells bb;");
             buyAs(x, 9, 2, 6);
             buyAs(x, 3, 1, 2);
         });
         Sentences.terms("then the fewest OFFERS,", () -> {
-            LastPages x = Checks.with(BOOKS + "offer oa costs 2 tells ba;offer ob costs 2 tells bb;offer oc costs 4 tells ba bb;offer od costs 0 tells;");
+            LastPages x = Checks.with(BOOKS + "offer oa costs 2 tells ba;offer ob costs 2 tells bb;offer oc costs 4 "
+                + "tells ba bb;offer od costs 0 tells;");
             buyAs(x, 9, 2, 4);
         });
         Sentences.terms("then the fewest OFFERS, then the least as a number.", () -> {
-            LastPages x = Checks.with(BOOKS + "offer oa costs 3 tells;offer ob costs 2 tells bf;offer oc costs 2 tells ba;offer od costs 2 tells bc;");
+            LastPages x = Checks.with(BOOKS + "offer oa costs 3 tells;offer ob costs 2 tells bf;offer oc costs 2 "
+                + "tells ba;offer od costs 2 tells bc;");
             buyAs(x, 2, 1, 2);
             buyAs(x, 4, 2, 6);
         });
         Sentences.terms("CHEAPEST: the least COST by which all BOOKS are KNOWN.", () -> {
             Checks.due("no books", Checks.with("").cheapest(), 0);
-            LastPages x = Checks.with("state s;book ba from s misses 1;book bb from s misses 1;offer oa costs 9 tells ba bb;offer ob costs 4 tells ba;"
+            LastPages x = Checks.with("state s;book ba from s misses 1;book bb from s misses 1;offer oa costs 9 tells "
+                + "ba bb;offer ob costs 4 tells ba;"
                 + "offer oc costs 4 tells bb;");
             Checks.fine("by two", x, x.cheapest(), 8);
-            LastPages y = Checks.with("state s;book ba from s misses 1;book bb from s misses 1;offer oa costs 0 tells bb;follows bb ba;");
+            LastPages y = Checks.with("state s;book ba from s misses 1;book bb from s misses 1;offer oa costs 0 tells "
+                + "bb;follows bb ba;");
             Checks.fine("for nothing", y, y.cheapest(), 0);
-            LastPages z = Checks.with("state s;book ba from s misses 1;book bb from s misses 1;offer oa costs 0 tells bb;follows ba bb;");
+            LastPages z = Checks.with("state s;book ba from s misses 1;book bb from s misses 1;offer oa costs 0 tells "
+                + "bb;follows ba bb;");
             Checks.refused("one can't be known", z, z.cheapest(), 8);
             LastPages w = Checks.with("state s;book ba from s misses 1;");
             Checks.refused("no offers", w, w.cheapest(), 8);
@@ -392,8 +410,10 @@ final class BoundsOfStories {
 
     private static void guarding() {
         String two = "state s;book ba from s misses 1;book bb from s misses 1;";
-        Sentences.terms("GUARD g (1 to 3): the least COST of WATCHES, so that each BOOK is GUARDED by g of them at least;", () -> {
-            LastPages x = Checks.with(two + "watch wa costs 1 guards ba;watch wb costs 2 guards bb ba;watch wc costs 4 guards bb ba;watch wd costs 90 guards bb;");
+        Sentences.terms("GUARD g (1 to 3): the least COST of WATCHES, so that each BOOK is GUARDED by g of them at "
+            + "least;", () -> {
+            LastPages x = Checks.with(two + "watch wa costs 1 guards ba;watch wb costs 2 guards bb ba;watch wc costs "
+                + "4 guards bb ba;watch wd costs 90 guards bb;");
             guardAs(x, 1, 2, 2);
             guardAs(x, 2, 6, 6);
             guardAs(x, 3, 97, 15);
@@ -406,21 +426,27 @@ final class BoundsOfStories {
             guardAs(Checks.with(""), 3, 0, 0);
             LastPages z = Checks.with(two);
             Checks.refused("no watches", z, z.guard(1), 8);
-            LastPages w = Checks.with(BOOKS + "watch wa costs 99 guards ba;watch wb costs 99 guards bb;watch wc costs 99 guards bc;"
-                + "watch wd costs 99 guards bd;watch we costs 99 guards be;watch wf costs 99 guards bf;watch wg costs 98 guards bf;");
+            LastPages w = Checks.with(BOOKS + "watch wa costs 99 guards ba;watch wb costs 99 guards bb;watch wc costs "
+                + "99 guards bc;"
+                + "watch wd costs 99 guards bd;watch we costs 99 guards be;watch wf costs 99 guards bf;watch wg costs "
+                + "98 guards bf;");
             guardAs(w, 1, 593, 95);
         });
         Sentences.terms("of several sets the fewest,", () -> {
-            LastPages x = Checks.with(two + "watch wa costs 2 guards ba;watch wb costs 2 guards bb;watch wc costs 4 guards ba bb;watch wd costs 0 guards;");
+            LastPages x = Checks.with(two + "watch wa costs 2 guards ba;watch wb costs 2 guards bb;watch wc costs 4 "
+                + "guards ba bb;watch wd costs 0 guards;");
             guardAs(x, 1, 4, 4);
         });
         Sentences.terms("of several sets the fewest, then the least as a number.", () -> {
-            LastPages x = Checks.with(two + "watch wa costs 0 guards;watch wb costs 3 guards ba bb;watch wc costs 3 guards ba bb;watch wd costs 3 guards ba bb;");
+            LastPages x = Checks.with(two + "watch wa costs 0 guards;watch wb costs 3 guards ba bb;watch wc costs 3 "
+                + "guards ba bb;watch wd costs 3 guards ba bb;");
             guardAs(x, 1, 3, 2);
             guardAs(x, 2, 6, 6);
             guardAs(x, 3, 9, 14);
-            LastPages y = Checks.with("state s;book ba from s misses 1;watch wa costs 9 guards;watch wb costs 9 guards;watch wc costs 9 guards;"
-                + "watch wd costs 9 guards;watch we costs 9 guards;watch wf costs 9 guards;watch wg costs 9 guards;watch wh costs 9 guards ba;");
+            LastPages y = Checks.with("state s;book ba from s misses 1;watch wa costs 9 guards;watch wb costs 9 "
+                + "guards;watch wc costs 9 guards;"
+                + "watch wd costs 9 guards;watch we costs 9 guards;watch wf costs 9 guards;watch wg costs 9 guards;"
+                + "watch wh costs 9 guards ba;");
             guardAs(y, 1, 9, 128);
         });
     }

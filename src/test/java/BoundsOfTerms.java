@@ -3,7 +3,8 @@ final class BoundsOfTerms {
     /** One of each kind of thing, and a second book. */
     private static final String HEAD = "state s;turn t;book b from s misses 3;book c from s misses 1;finale f t;reader r;"
         + "offer o costs 1 tells b;watch w costs 1 guards b;";
-    private static final String WORDS = "state, final, turn, odd, rule, to, book, from, misses, finale, hint, at, is, by, reader, "
+    private static final String WORDS = "state, final, turn, odd, rule, to, book, from, misses, finale, hint, at, is, "
+        + "by, reader, "
         + "offer, costs, tells, watch, guards, follows, bind, loose, call, guess, when, done, left, loop, end, stop";
 
     private BoundsOfTerms() { }
@@ -242,6 +243,10 @@ final class BoundsOfTerms {
         Sentences.terms("FINAL or not.", () -> {
             LastPages x = Checks.with("state a final;state b;state c;state d;state e;state f;state g;state h final;");
             Checks.fine("the first and the eighth", x, x.many(9), 129);
+            LastPages y = Checks.with("state a;state b final;state c;");
+            Checks.fine("the second alone", y, y.many(9), 2);
+            LastPages z = Checks.with("state a;state b;");
+            Checks.fine("none", z, z.many(9), 0);
         });
         Sentences.terms("TURNS, at most 8:", () -> limit("", "turn x#;", 8));
         Sentences.terms("ODD by so much (0 to 9; 1 without).", () -> {
@@ -261,7 +266,8 @@ final class BoundsOfTerms {
             Checks.refused("none of this turn", x, x.rule(0, 1), 8);
         });
         Sentences.terms("(told again for these two: the latest).", () -> {
-            LastPages x = Checks.with("state s;state p;state q;turn t;" + "rule s t to p;rule s t to q;".repeat(20) + "rule s t to s;");
+            LastPages x = Checks.with("state s;state p;state q;turn t;"
+                + "rule s t to p;rule s t to q;".repeat(20) + "rule s t to s;");
             Checks.fine("the latest of 41", x, x.rule(0, 0), 0);
             Checks.fine("one rule", x, x.many(8), 1);
             LastPages y = Checks.with("state s;state p;turn t;rule s t to p;rule p t to s;");
@@ -306,8 +312,10 @@ final class BoundsOfTerms {
 
     private static void readersAndHints() {
         Sentences.terms("READERS, at most 6.", () -> limit("", "reader x#;", 6));
-        Sentences.terms("HINTS, at most 12:", () -> limit("state s;turn t;book b from s misses 3;reader r;", "hint b at 1 is t by r;", 12));
-        Sentences.terms("that in a BOOK AT a missing place (1 the first; no more than it MISSES) there IS a TURN, BY a READER.", () -> {
+        Sentences.terms("HINTS, at most 12:", () -> limit("state s;turn t;book b from s misses 3;reader r;", "hint b "
+            + "at 1 is t by r;", 12));
+        Sentences.terms("that in a BOOK AT a missing place (1 the first; no more than it MISSES) there IS a TURN, BY "
+            + "a READER.", () -> {
             LastPages x = Checks.with(HEAD + "hint b at 1 is t by r;hint b at 3 is t by r;hint c at 1 is t by r;");
             Checks.fine("the first place", x, x.hint(0, 1), 1);
             Checks.fine("the last place", x, x.hint(1, 1), 3);
@@ -351,8 +359,10 @@ final class BoundsOfTerms {
     private static void numbered() {
         String books = "book ka from h misses 1;book kb from g misses 2;book kc from f misses 3;book kd from e misses 4;"
             + "book ke from d misses 5;book kf from c misses 6;";
-        String finales = "finale fa th;finale fb tg;finale fc tf;finale fd te;finale fe td;finale ff tc;finale fg tb;finale fh ta;";
-        LastPages x = Checks.with("turn ta;state a;turn tb;state b;turn tc;state c;turn td;state d;turn te;state e;turn tf;state f;"
+        String finales = "finale fa th;finale fb tg;finale fc tf;finale fd te;finale fe td;finale ff tc;finale fg tb;"
+            + "finale fh ta;";
+        LastPages x = Checks.with("turn ta;state a;turn tb;state b;turn tc;state c;turn td;state d;turn te;state e;"
+            + "turn tf;state f;"
             + "turn tg;state g;turn th;state h;" + books + finales
             + "reader ra;reader rb;reader rc;reader rd;reader re;reader rf;hint kf at 6 is th by rf;hint ka at 1 is ta by ra;"
             + "offer oa costs 5 tells kf;offer ob costs 6 tells ka;watch wa costs 7 guards kf;watch wb costs 8 guards ka;");
@@ -499,7 +509,8 @@ final class BoundsOfTerms {
     }
 
     private static void faultsOfOneMore() {
-        Sentences.terms("6 one more state, turn, book, finale, reader, hint, offer, watch than there may be (at that WORD);", () -> {
+        Sentences.terms("6 one more state, turn, book, finale, reader, hint, offer, watch than there may be (at that "
+            + "WORD);", () -> {
             String full = "state x#;".repeat(8);
             for (int i = 0; i < 8; i++) {
                 full = full.replaceFirst("#", String.valueOf((char) ('a' + i)));
@@ -531,14 +542,15 @@ final class BoundsOfTerms {
         Checks.refused("no weeks", x, x.live(0), 8);
         Checks.same("all as if it were the first", Seen.of(x), Seen.of(Checks.with(Rich.SHELF)));
         String small = "state z;state y;turn x;reader w;book v from z misses 1;book u from y misses 1;finale r x;"
-            + "offer q costs 1 tells u;watch p costs 1 guards v;";
+            + "offer q costs 1 tells v;watch p costs 1 guards v;";
         LastPages y = Checks.with(Rich.SHELF);
         for (int i = 0; i < 3; i++) {
             y.call(1, true);
             y.bind(1, 1);
             Checks.weeks(y, Rich.WEEKS);
-            Checks.shelf(y, i == 0 ? Rich.SHELF : small);
-            Checks.same("nothing of those ahead is left", Seen.butTexts(y), Seen.butTexts(Checks.with(i == 0 ? Rich.SHELF : small)));
+            String next = i == 0 ? Rich.SHELF : small;
+            Checks.shelf(y, next);
+            Checks.same("nothing of those ahead is left", Seen.butTexts(y), Seen.butTexts(Checks.with(next)));
         }
         LastPages z = new LastPages();
         Checks.refused("a fault at the end", z, Checks.shelf(z, Rich.SHELF + "?"), 10);

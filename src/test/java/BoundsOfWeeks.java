@@ -1,8 +1,10 @@
 /** The sentences of the Terms on weeks, draws, marks and fractions: each with its bounds. */
 final class BoundsOfWeeks {
     /** Any of fa, fb, fc fits ba and bb; bc takes nothing. */
-    private static final String THREE = "state s final;state p;turn t;turn u odd 4;turn v odd 2;rule s t to s;rule s u to s;rule s v to s;"
-        + "book ba from s misses 1;book bb from s misses 1;book bc from p misses 1;finale fa t;finale fb u;finale fc v;reader r;reader q;";
+    private static final String THREE = "state s final;state p;turn t;turn u odd 4;turn v odd 2;rule s t to s;rule s "
+        + "u to s;rule s v to s;"
+        + "book ba from s misses 1;book bb from s misses 1;book bc from p misses 1;finale fa t;finale fb u;finale fc "
+        + "v;reader r;reader q;";
     private static final String STEPS_298 = "loop 99;loose bc;loose bc;loose bc;end;";
 
     private BoundsOfWeeks() { }
@@ -223,7 +225,8 @@ final class BoundsOfWeeks {
     }
 
     private static void guesses() {
-        Sentences.terms("guess: a FINALE for a BOOK by a draw by how many FINALES FIT it that are in no BOOK, by numbers: it is BOUND.", () -> {
+        Sentences.terms("guess: a FINALE for a BOOK by a draw by how many FINALES FIT it that are in no BOOK, by "
+            + "numbers: it is BOUND.", () -> {
             for (int seed : new int[] {0, 1, 2, 3, 4, 5, 6, 7, 8, 9998, 9999}) {
                 int s = follower(seed);
                 LastPages x = lived("guess ba;", seed, 1, 0, 1, 0, 1);
@@ -469,7 +472,10 @@ final class BoundsOfWeeks {
         }
         Checks.fine("a liar", x, x.many(11), 32);
         Checks.fine("a finale in the first book", x, x.book(0, 5), 7);
-        Checks.fine("names", x, Checks.weeks(x, weeks), 8);
+        Checks.fine("names", x, Checks.weeks(x, "loose q;call zj;bind v zd;call ze;"), 4);
+        x.live(0);
+        Checks.fine("the last finale in the last book", x, x.book(5, 5), 7);
+        Checks.fine("the first reader", x, x.many(11), 1);
         Checks.fine("back to full rows", x, x.back(), 0);
         Checks.fine("the last page", x, x.page(5, 9), 1);
         Checks.fine("the last turn", x, x.finale(7, 6), 1);

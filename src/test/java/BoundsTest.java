@@ -2,7 +2,8 @@
 public final class BoundsTest {
     public static void main(String[] args) throws Exception {
         Sentences.readDocument();
-        Sentences.ahead("An object is used for at most 512 calls after it has been made; what later calls answer is free.", BoundsTest::calls);
+        Sentences.ahead("An object is used for at most 512 calls after it has been made; what later calls answer is "
+            + "free.", BoundsTest::calls);
         BoundsOfTerms.run();
         BoundsOfStories.run();
         BoundsOfWeeks.run();
