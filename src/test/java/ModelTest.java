@@ -8,7 +8,8 @@ import java.util.Random;
 public final class ModelTest {
     private static final List<Method> CALLS = new ArrayList<>();
     private static final String[] NAMES = {"a", "b", "c", "d", "e", "f", "g", "h", "i", "j", "k", "l", "m", "n", "o", "p",
-        "q", "r", "s", "t", "u", "v", "w", "x", "y", "z", "ab", "cd", "abcdefgh", "zzzzzzzz", "ofs", "tok"};
+        "q", "r", "s", "t", "u", "v", "w", "x", "y", "z", "ab", "cd", "abcdefgh", "zzzzzzzz", "ofs", "tok",
+        "aa", "bb", "cc", "dd", "ee", "ff", "gg", "hh", "ii", "jj", "kk", "ll", "mm", "nn", "oo", "pp", "qq", "rr", "ss"};
     private static final String[] JUNK = {"state", "final", "turn", "odd", "rule", "to", "book", "from", "misses", "finale",
         "hint", "at", "is", "by", "reader", "offer", "costs", "tells", "watch", "guards", "follows", "bind", "loose",
         "call", "guess", "when", "done", "left", "loop", "end", "stop", ";", "<", ">", "=", "0", "1", "6", "7", "10", "99",
@@ -20,6 +21,8 @@ public final class ModelTest {
     private final Model model = new Model();
     private final StringBuilder story = new StringBuilder();
     private boolean differs = false;
+    /** Whether the shelf at hand shall have as many of all things as there may be, as far as the text goes. */
+    private boolean isFull = false;
 
     private ModelTest(long seed) {
         random = new Random(seed);
@@ -202,6 +205,7 @@ public final class ModelTest {
 
     private void shelfText() throws Exception {
         clearTape();
+        isFull = random.nextInt(8) == 0;
         for (List<?> l : List.of(states, turns, books, misses, finales, readers)) {
             l.clear();
         }
@@ -221,10 +225,11 @@ public final class ModelTest {
             turns.add(n);
         }
         int[][] leads = new int[nStates + 1][nTurns + 1];
-        int dense = 1 + random.nextInt(5);
+        int dense = 1 + random.nextInt(isFull ? 2 : 5);
+        int rules = isFull ? 16 + random.nextInt(20) : 36;
         for (int i = 0; i < nStates; i++) {
             for (int j = 0; j < nTurns; j++) {
-                leads[i][j] = random.nextInt(6) < dense && parts.size() < 36 ? random.nextInt(nStates) : -1;
+                leads[i][j] = random.nextInt(6) < dense && parts.size() < rules ? random.nextInt(nStates) : -1;
                 if (leads[i][j] >= 0) {
                     parts.add("rule " + states.get(i) + " " + turns.get(j) + " to " + states.get(leads[i][j]));
                 }
@@ -240,7 +245,7 @@ public final class ModelTest {
             int m = random.nextInt(12) == 0 ? 1 + random.nextInt(6) : 1 + random.nextInt(3);
             places[i] = nStates == 0 ? -1 : random.nextInt(nStates);
             StringBuilder part = new StringBuilder("book " + n + " from " + (nStates == 0 ? "a" : states.get(places[i])) + " misses " + m);
-            int pages = random.nextInt(40) == 0 ? 11 : random.nextInt(9) == 0 ? 10 : random.nextInt(4);
+            int pages = isFull ? random.nextInt(2) : random.nextInt(40) == 0 ? 11 : random.nextInt(9) == 0 ? 10 : random.nextInt(4);
             for (int j = 0; j < pages && nTurns > 0; j++) {
                 int t = random.nextInt(nTurns);
                 for (int k = 0; k < 9 && (places[i] < 0 || leads[places[i]][t] < 0); k++) {
@@ -280,7 +285,10 @@ public final class ModelTest {
         }
         StringBuilder text = new StringBuilder();
         for (String part : parts) {
-            text.append(part).append(random.nextInt(9) == 0 ? " ;\n" : ";");
+            if (isFull && text.length() + part.length() >= 900) {
+                break;
+            }
+            text.append(part).append(random.nextInt(9) == 0 && !isFull ? " ;\n" : ";");
         }
         String whole = spoilt(text.toString());
         give("shelf", whole.length() > 900 ? whole.substring(0, 900) : whole);
@@ -317,7 +325,11 @@ public final class ModelTest {
         }
     }
 
+    /** One more than there may be, now and then. */
     private int size(int usual, int most) {
+        if (isFull) {
+            return most - 1;
+        }
         return random.nextInt(40) == 0 ? random.nextInt(most + 1) : 1 + random.nextInt(usual);
     }
 
